@@ -1292,7 +1292,8 @@ public final class ScaleInspection {
      */
     private static final class Solver {
         static final int NO_STRATEGY = 99;
-        static final int NO_WEIGHING = Integer.MAX_VALUE;
+        // Above every weighing, since a weighing has at most twelve weights above two pans of twelve bits.
+        static final int NO_WEIGHING = 1 << 28;
         private static final int SIDE = MAX_WEIGHTS + 1;
         private static final int PAN_BITS = MAX_WEIGHTS;
         private static final int PAN = (1 << PAN_BITS) - 1;
@@ -1314,7 +1315,10 @@ public final class ScaleInspection {
         void choose(int newCount, int heavy, int light, int newGenuine) {
             count = newCount;
             if (!ready[count]) {
-                fillNeeds();
+                forgetNeeds();
+                fillSplitNeeds();
+                fillMixedNeeds(0);
+                fillMixedNeeds(1);
                 ready[count] = true;
             }
             mixed = (heavy & light) != 0;
@@ -1340,8 +1344,7 @@ public final class ScaleInspection {
         }
 
         // Fewer suspects come first, since each weighing that tells something leaves fewer.
-        private void fillNeeds() {
-            forgetNeeds();
+        private void fillSplitNeeds() {
             mixed = false;
             genuine = 0;
             for (int suspects = 0; suspects <= count; suspects++) {
@@ -1353,14 +1356,12 @@ public final class ScaleInspection {
                     splitNeeds[splitAt(second, first)] = need;
                 }
             }
-            mixed = true;
-            second = 0;
-            fillMixedNeeds(0);
-            fillMixedNeeds(1);
         }
 
         private void fillMixedNeeds(int newGenuine) {
+            mixed = true;
             genuine = newGenuine;
+            second = 0;
             for (int suspects = 0; suspects <= count; suspects++) {
                 first = suspects;
                 mixedNeeds[mixedAt(suspects)] = suspects == 0 ? 0 : oneMore(leastWorst());

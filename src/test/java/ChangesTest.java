@@ -12,6 +12,7 @@ public final class ChangesTest {
         snapshotSlots();
         snapshotHoldsAll();
         snapshotKeepsServiceAndVerdict();
+        snapshotKeepsEveryVisit();
         CHECK.finish();
     }
 
@@ -139,6 +140,11 @@ public final class ChangesTest {
         CHECK.due("51: slot 0 stays empty", false, x.restoreSnapshot(0));
         CHECK.due("51: slot 1", true, x.restoreSnapshot(1));
         CHECK.due("51: slot 1 stays stored", true, x.restoreSnapshot(1));
+        CHECK.due("51: no slot 2", false, x.restoreSnapshot(2));
+        CHECK.due("51: no slot -1", false, x.restoreSnapshot(-1));
+        CHECK.due("50: slot 0 too", true, x.saveSnapshot(0));
+        CHECK.due("51: no slot -1", false, x.restoreSnapshot(-1));
+        CHECK.due("51: no slot MIN", false, x.restoreSnapshot(Integer.MIN_VALUE));
 
         ScaleInspection y = Text.market(MARKET);
         y.weigh(0, 1, 2, 0);
@@ -196,6 +202,70 @@ public final class ChangesTest {
         x.restoreSnapshot(1);
         CHECK.due("50: as slot 0", 1, x.visitCount());
         CHECK.due("50: as slot 0", 6, x.hypothesisCount(1));
+    }
+
+    /** A snapshot of thirty visits, restored after the latest of them have been undone and replaced. */
+    private static void snapshotKeepsEveryVisit() {
+        ScaleInspection x = Text.market("trader;scale 0 0 10 1000;scale 0 0 10 1000;mass 500;mass 30;set 3 maybe;");
+        for (int visit = 0; visit < 30; visit++) {
+            x.startVisit(visit % 2, visit);
+            x.record(visit, visit % 4, 10 * visit);
+            x.record(visit, 0, visit);
+            x.closeVisit(visit);
+        }
+        x.saveSnapshot(0);
+        for (int i = 0; i < 12; i++) {
+            CHECK.due("48: undo", true, x.undo());
+        }
+        for (int visit = 27; visit < 30; visit++) {
+            x.startVisit(1 - visit % 2, 50);
+            x.record(visit, 1, 1);
+            x.record(visit, 2, 2);
+            x.record(visit, 2, 2);
+        }
+        x.weigh(0, 1, 2, 1);
+        CHECK.due("42: not genuine", 0, x.canBeGenuine(0));
+        CHECK.due("51: slot 0", true, x.restoreSnapshot(0));
+        CHECK.due("42: genuine again", 1, x.canBeGenuine(0));
+        CHECK.due("39: seven hypotheses", 7, x.hypothesisCount(0));
+        CHECK.due("17: thirty visits", 30, x.visitCount());
+        for (int visit = 0; visit < 30; visit++) {
+            int load = (visit % 2) * 500 + (visit % 4 / 2) * 30;
+            CHECK.due("18: scale of visit " + visit, visit % 2, x.visitScale(visit));
+            CHECK.due("21: tests of visit " + visit, 2, x.testCount(visit));
+            CHECK.due("22: load of visit " + visit, load, x.testLoad(visit, 0));
+            CHECK.due("23: error of visit " + visit, 10 * visit - load, x.testError(visit, 0));
+            CHECK.due("23: other error of visit " + visit, visit, x.testError(visit, 1));
+            CHECK.due("29: closed " + visit, 1, x.isClosed(visit));
+        }
+        otherVisitsOnSamePlaces();
+    }
+
+    /** The places of undone visits and tests are used again; a restore must bring back what stood there. */
+    private static void otherVisitsOnSamePlaces() {
+        ScaleInspection x = Text.market("trader;scale 0 0 10 1000;scale 0 0 10 1000;mass 500;mass 30;");
+        x.startVisit(1, 9);
+        x.record(0, 1, 501);
+        x.record(0, 0, 2);
+        x.saveSnapshot(0);
+        x.undo();
+        x.undo();
+        x.undo();
+        CHECK.due("16: another visit", 0, x.startVisit(0, 3));
+        x.record(0, 2, 37);
+        x.record(0, 2, 37);
+        x.record(0, 3, 530);
+        CHECK.due("51: slot 0", true, x.restoreSnapshot(0));
+        CHECK.due("51: scale", 1, x.visitScale(0));
+        CHECK.due("51: tests", 2, x.testCount(0));
+        CHECK.due("51: load", 500, x.testLoad(0, 0));
+        CHECK.due("51: error", 1, x.testError(0, 0));
+        CHECK.due("51: load", 0, x.testLoad(0, 1));
+        CHECK.due("51: error", 2, x.testError(0, 1));
+        CHECK.due("51: masses", 3, x.verdict(0));
+        CHECK.due("51: a test", 2, x.record(0, 1, 500));
+        CHECK.due("51: masses repeat", 0, x.verdict(0));
+        CHECK.due("51: day", -1, x.startVisit(1, 8));
     }
 
     private static void snapshotKeepsServiceAndVerdict() {

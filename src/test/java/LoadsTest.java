@@ -22,6 +22,13 @@ public final class LoadsTest {
         CHECK.due("13: MAX", -2, x.fewestMasses(Integer.MAX_VALUE));
         CHECK.due("13: negative", -1, x.fewestMasses(-1));
         CHECK.due("13: MIN", -1, x.fewestMasses(Integer.MIN_VALUE));
+        ScaleInspection z = Text.market("mass 1;mass 2;mass 4;mass 8;mass 16;mass 32;mass 64;mass 128;mass 256;mass 512;");
+        for (int load = 0; load < 1024; load += 31) {
+            CHECK.due("13: powers of 2, " + load, load, z.fewestMasses(load));
+            CHECK.due("14: powers of 2, " + load, load, z.closestLoad(load));
+        }
+        CHECK.due("13: all ten", 1023, z.fewestMasses(1023));
+        CHECK.due("13: one more", -2, z.fewestMasses(1024));
         ScaleInspection y = Text.market("mass 3;mass 4;mass 5 plus 2;");
         CHECK.due("13: fewer beats lower", 4, y.fewestMasses(7));
     }

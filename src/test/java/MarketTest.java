@@ -15,6 +15,7 @@ public final class MarketTest {
         smallestPosition();
         parseErrorChangesNothing();
         parseSuccessRemovesChanges();
+        parseAgainAndAgain();
         errorPosition();
         counts();
         scales();
@@ -255,6 +256,39 @@ public final class MarketTest {
         CHECK.due("3: sums are new", 7, x.closestLoad(2000));
         CHECK.due("3: pans are new", -2, x.twoPans(1000));
         CHECK.due("3: a day before the old visit", 0, x.startVisit(0, 0));
+    }
+
+    /** Nothing of an earlier text may be left, whether it was taken or refused. */
+    private static void parseAgainAndAgain() {
+        String full = "trader;trader;scale 1 2 5 100;mass 7;mass 8;set 4;set 5 maybe;term 0 1;term 1 1;term 2 5;";
+        ScaleInspection x = new ScaleInspection();
+        for (int i = 0; i < 6; i++) {
+            CHECK.due("3: full", 0, Text.parse(x, full));
+            CHECK.due("3: its scales", 1, x.scaleCount());
+            CHECK.due("3: refused", 1, Text.parse(x, full + "?"));
+            CHECK.due("3: small", 0, Text.parse(x, i % 2 == 0 ? "" : "trader;term 0 1;term 1 1;term 2 1;"));
+            CHECK.due("3: no scales", 0, x.scaleCount());
+            CHECK.due("3: no masses", 0, x.massCount());
+            CHECK.due("3: no sets", 0, x.setCount());
+            CHECK.due("3: no sums", -2, x.fewestMasses(7));
+            CHECK.due("3: terms again", 0, Text.parse(x, "trader;scale 0 0 1 20;mass 10;term 0 5;"));
+            passedVisit(x);
+            CHECK.due("3: the term of class 0", 1800, x.expiryDay(0, 0));
+            CHECK.due("3: without terms", 0, Text.parse(x, "trader;scale 0 0 1 20;mass 10;"));
+            CHECK.due("16: a visit", 0, x.startVisit(0, 0));
+            CHECK.due("21: without the tests of a former market", 0, x.testCount(0));
+            x.undo();
+            passedVisit(x);
+            CHECK.due("3: the default term", 720, x.expiryDay(0, 0));
+        }
+    }
+
+    private static void passedVisit(ScaleInspection x) {
+        int visit = x.startVisit(0, 0);
+        x.record(visit, 0, 0);
+        x.record(visit, 1, 10);
+        x.record(visit, 1, 10);
+        CHECK.due("28: passed", 0, x.closeVisit(visit));
     }
 
     private static void errorPosition() {

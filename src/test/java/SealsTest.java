@@ -14,6 +14,8 @@ public final class SealsTest {
         riskiestTrader();
         lotOfNew();
         lotByRisk();
+        greatestMarket();
+        smallerMarketAfterwards();
         CHECK.finish();
     }
 
@@ -180,6 +182,38 @@ public final class SealsTest {
         CHECK.due("35: second", 3, x.lot(1, 1, 0));
         CHECK.due("35: third", 0, x.lot(1, 2, 0));
         CHECK.due("35: fourth", 2, x.lot(1, 3, 0));
+    }
+
+    private static void greatestMarket() {
+        ScaleInspection x = Text.market("trader;".repeat(8) + "scale 7 2 1 20;".repeat(24) + "mass 10;");
+        CHECK.due("34: the last trader", 7, x.riskiestTrader(9999));
+        CHECK.due("33: the last scale", 4, x.risk(23, 0));
+        int drawn = 0;
+        for (int position = 0; position < 24; position++) {
+            drawn |= 1 << x.lot(999999, position, 0);
+        }
+        CHECK.due("35: all scales are drawn", 0xffffff, drawn);
+        CHECK.due("35: and no more", -2, x.lot(999999, 24, 0));
+        CHECK.due("32: all are new", 0xffffff, x.scalesWith(0, 0));
+    }
+
+    /** Risks of a former market play no part. */
+    private static void smallerMarketAfterwards() {
+        ScaleInspection x = Text.market("trader;trader;" + "scale 1 0 1 20;".repeat(4) + "scale 0 0 1 20;");
+        for (int scale = 0; scale < 4; scale++) {
+            fail(x, scale, 0);
+        }
+        CHECK.due("33: six, one and three", 10, x.risk(3, 0));
+        CHECK.due("34: the second trader", 1, x.riskiestTrader(0));
+        x.lot(1, 4, 0);
+        CHECK.due("parse", 0, Text.parse(x, "trader;trader;scale 0 0 1 20;scale 1 0 1 20;"));
+        risks(x, 0, 4, 4);
+        CHECK.due("34: a tie now", 0, x.riskiestTrader(0));
+        for (int seed = 0; seed < 1000000; seed += 99999) {
+            long r = (seed * 1103515245L + 12345L) % 2147483648L / 65536 % 8;
+            CHECK.due("35: lot(" + seed + ", 0, 0)", r < 4 ? 0 : 1, x.lot(seed, 0, 0));
+            CHECK.due("35: lot(" + seed + ", 1, 0)", r < 4 ? 1 : 0, x.lot(seed, 1, 0));
+        }
     }
 
     /** Draws each lot by the words of the document, with the risks that the class answers. */

@@ -22,6 +22,7 @@ public final class VisitsTest {
         testAnswers();
         verdicts();
         verdictTolerance();
+        undoneTests();
         adjustment();
         adjustedVerdict();
         closeVisit();
@@ -257,6 +258,39 @@ public final class VisitsTest {
         CHECK.due("25: differ by 21 in service", 5, y.verdict(1));
         y.record(1, 2, 5011);
         CHECK.due("25: 11 at 5000", 4, y.verdict(1));
+    }
+
+    /** A test that was undone plays no part in verdicts and adjustments. */
+    private static void undoneTests() {
+        ScaleInspection x = withVisit();
+        x.record(0, 0, 0);
+        CHECK.due("undo", true, x.undo());
+        x.record(0, M2500, 2500);
+        CHECK.due("25: no empty test", 1, x.verdict(0));
+        x.undo();
+        x.record(0, 0, 0);
+        x.record(0, M2500, 2500);
+        x.undo();
+        CHECK.due("25: no half load", 2, x.verdict(0));
+        x.record(0, M2500, 2500);
+        x.record(0, M2500, 2500);
+        x.undo();
+        CHECK.due("25: no repeat", 3, x.verdict(0));
+        x.record(0, M2500, 2500);
+        x.record(0, M2500, 2506);
+        CHECK.due("25: a failure", 4, x.verdict(0));
+        x.undo();
+        CHECK.due("25: no failure", 0, x.verdict(0));
+        CHECK.due("26: no error", 0, x.adjustment(0));
+
+        // The half load may come first, and the repeat last.
+        ScaleInspection y = withVisit();
+        y.record(0, M2500, 2500);
+        y.record(0, 0, 0);
+        CHECK.due("25: half load first", 3, y.verdict(0));
+        y.record(0, M1000, 1000);
+        y.record(0, M1000, 1000);
+        CHECK.due("25: repeat last", 0, y.verdict(0));
     }
 
     private static void adjustment() {

@@ -206,6 +206,11 @@ public final class WeightsTest {
         best(x, 3, 1, 1, 2);
         CHECK.due("37: 0 against 1 balances", 1, x.weigh(3, 1, 2, 0));
         CHECK.due("43: heavy 3", 7, x.finding(3));
+        // The question before was about another set.
+        CHECK.due("37: balance", 4, x.weigh(1, 1, 2, 0));
+        CHECK.due("46: set 1", 4, x.bestRight(1));
+        CHECK.due("46: set 0", 2, x.bestRight(0));
+        CHECK.due("45: set 1", 1, x.bestLeft(1));
         allAgainstTrial();
     }
 
