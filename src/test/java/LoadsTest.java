@@ -73,16 +73,16 @@ public final class LoadsTest {
             CHECK.due("15: " + k + " of ten equal ones", (1 << k) - 1, x.twoPans(5 * k));
         }
         CHECK.due("15: 11 of ten", -2, x.twoPans(55));
-        ScaleInspection y = Text.market("mass 1;mass 3;mass 9;mass 27;mass 81;mass 243;mass 729;mass 2187;mass 6561;"
-                + "mass 19683;");
+        String powers = "mass 1;mass 3;mass 9;mass 27;mass 81;mass 243;mass 729;mass 2187;mass 6561;mass 19683;";
+        ScaleInspection y = Text.market(powers);
         // In powers of 3 every number has one way; 29524 is the sum of all.
-        for (int goods = 0; goods <= 29524; goods += 60) {
+        for (int goods = 0; goods <= 29524; goods += 61) {
             int pair = y.twoPans(goods);
             int right = pair & 1023;
             int left = pair >> 10;
             int sum = 0;
-            for (int k = 0; k < 10; k++) {
-                sum += ((right >> k & 1) - (left >> k & 1)) * y.massValue(k);
+            for (int k = 0, value = 1; k < 10; k++, value *= 3) {
+                sum += ((right >> k & 1) - (left >> k & 1)) * value;
             }
             CHECK.due("15: powers of 3, " + goods, goods, sum);
             CHECK.due("15: disjoint", 0, right & left);

@@ -218,32 +218,39 @@ public final class SealsTest {
 
     /** Draws each lot by the words of the document, with the risks that the class answers. */
     private static void lotByRisk() {
-        ScaleInspection x = Text.market(MARKET);
-        fail(x, 0, 10);
-        pass(x, 2, 10);
-        fail(x, 3, 10);
-        fail(x, 3, 11);
-        for (int seed = 0; seed < 1000000; seed += 37037) {
-            for (int day = 9; day < 13; day++) {
-                long state = seed;
-                boolean[] drawn = new boolean[4];
-                for (int position = 0; position < 4; position++) {
-                    state = (state * 1103515245L + 12345L) % 2147483648L;
-                    int sum = 0;
-                    for (int scale = 0; scale < 4; scale++) {
-                        sum += drawn[scale] ? 0 : x.risk(scale, day);
-                    }
-                    long r = state / 65536 % sum;
-                    int scale = 0;
-                    while (drawn[scale] || r >= x.risk(scale, day)) {
-                        r -= drawn[scale] ? 0 : x.risk(scale, day);
-                        scale++;
-                    }
-                    drawn[scale] = true;
-                    CHECK.due("35: lot(" + seed + ", " + position + ", " + day + ")", scale,
-                            x.lot(seed, position, day));
-                }
+        for (int day = 9; day < 13; day++) {
+            ScaleInspection x = Text.market(MARKET);
+            fail(x, 0, 10);
+            pass(x, 2, 10);
+            fail(x, 3, 10);
+            fail(x, 3, 11);
+            int[] risks = new int[4];
+            for (int scale = 0; scale < 4; scale++) {
+                risks[scale] = x.risk(scale, day);
             }
+            for (int seed = 0; seed < 1000000; seed += 37037) {
+                lots(x, seed, day, risks);
+            }
+        }
+    }
+
+    private static void lots(ScaleInspection x, int seed, int day, int[] risks) {
+        long state = seed;
+        boolean[] drawn = new boolean[4];
+        for (int position = 0; position < 4; position++) {
+            state = (state * 1103515245L + 12345L) % 2147483648L;
+            int sum = 0;
+            for (int scale = 0; scale < 4; scale++) {
+                sum += drawn[scale] ? 0 : risks[scale];
+            }
+            long r = state / 65536 % sum;
+            int scale = 0;
+            while (drawn[scale] || r >= risks[scale]) {
+                r -= drawn[scale] ? 0 : risks[scale];
+                scale++;
+            }
+            drawn[scale] = true;
+            CHECK.due("35: lot(" + seed + ", " + position + ", " + day + ")", scale, x.lot(seed, position, day));
         }
     }
 }
