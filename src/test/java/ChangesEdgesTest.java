@@ -29,6 +29,7 @@ public final class ChangesEdgesTest {
         whatASnapshotLeaves();
         snapshotOfNothing();
         snapshotOfTheMost();
+        snapshotOfEveryPlace();
         CHECK.finish();
     }
 
@@ -227,10 +228,10 @@ public final class ChangesEdgesTest {
                         CHECK.due("28: closeVisit", 1, x.closeVisit(1));
                         break;
                     case 3:
-                        CHECK.due("37: weigh", 2, x.weigh(0, 1, 8, 1));
+                        CHECK.due("37: no longer genuine", 2, x.weigh(0, 64, 128, 1));
                         break;
                     default:
-                        CHECK.due("37: weigh", 1, x.weigh(0, 1, 2, 1));
+                        CHECK.due("37: all are genuine", 1, x.weigh(0, 448, 3584, 0));
                         break;
                 }
                 return number(x.undo());
@@ -245,7 +246,7 @@ public final class ChangesEdgesTest {
         x.saveSnapshot(1);
         x.startVisit(0, 30);
         x.record(1, 1, 503);
-        x.weigh(0, 7, 56, 1);
+        x.weigh(0, 7, 56, 0);
         return x;
     }
 
@@ -481,5 +482,39 @@ public final class ChangesEdgesTest {
         CHECK.due("16: an open visit", -2, x.startVisit(0, 29));
         CHECK.due("28: it is closed", 4, x.closeVisit(29));
         CHECK.due("16: a thirty-first visit", -3, x.startVisit(0, 29));
+    }
+
+    /** For each number of a visit and of a test: other tests on their places go when the snapshot comes back. */
+    private static void snapshotOfEveryPlace() {
+        for (int last = 0; last < 30; last++) {
+            for (int first = 0; first <= 5; first++) {
+                ScaleInspection x = Text.market("trader;scale 0 0 10 1000;mass 500;mass 100;");
+                for (int visit = 0; visit < last; visit++) {
+                    x.closeVisit(x.startVisit(0, 10));
+                }
+                x.startVisit(0, 10);
+                for (int test = 0; test < first; test++) {
+                    x.record(last, 2, 100);
+                }
+                x.record(last, 0, 4);
+                x.record(last, 1, 500);
+                x.record(last, 1, 501);
+                x.saveSnapshot(0);
+                x.undo();
+                x.undo();
+                x.undo();
+                x.record(last, 1, 570);
+                x.record(last, 3, 670);
+                x.record(last, 2, 170);
+                String which = "visit " + last + ", test " + first;
+                CHECK.due("25: no empty one, " + which, 1, x.verdict(last));
+                CHECK.due("51: slot 0", true, x.restoreSnapshot(0));
+                CHECK.due("51: the empty one, " + which, 0, x.testLoad(last, first));
+                CHECK.due("51: its error, " + which, 4, x.testError(last, first));
+                CHECK.due("51: half the capacity, " + which, 500, x.testLoad(last, first + 2));
+                CHECK.due("51: its error, " + which, 1, x.testError(last, first + 2));
+                CHECK.due("51: their sets, " + which, 0, x.verdict(last));
+            }
+        }
     }
 }

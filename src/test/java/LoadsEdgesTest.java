@@ -102,6 +102,14 @@ public final class LoadsEdgesTest {
         for (int i = 0; i < loads.length; i++) {
             CHECK.due("14: closestLoad(" + loads[i] + ")", sums[i], x.closestLoad(loads[i]));
         }
+        // The greatest sum need not be that of the greatest bit set.
+        ScaleInspection z = Text.market("mass 60;mass 25;mass 10;");
+        int[] sumsOfZ = {10, 25, 35, 60, 70, 85, 95};
+        for (int i = 0; i < sumsOfZ.length; i++) {
+            CHECK.due("14: one less than " + sumsOfZ[i], i == 0 ? 0 : sumsOfZ[i - 1], z.closestLoad(sumsOfZ[i] - 1));
+            CHECK.due("14: just " + sumsOfZ[i], sumsOfZ[i], z.closestLoad(sumsOfZ[i]));
+            CHECK.due("14: one more than " + sumsOfZ[i], sumsOfZ[i], z.closestLoad(sumsOfZ[i] + 1));
+        }
         ScaleInspection y = Text.market(TEN_HEAVIEST);
         CHECK.due("14: just the greatest sum", HEAVIEST_SUM, y.closestLoad(HEAVIEST_SUM));
         CHECK.due("14: one less", HEAVIEST_SUM - 1000098, y.closestLoad(HEAVIEST_SUM - 1));

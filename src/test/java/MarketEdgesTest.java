@@ -26,6 +26,7 @@ public final class MarketEdgesTest {
         everyByteAtAStatement();
         everyByteAmongLetters();
         wordLength();
+        everyLetterOfAWord();
         maximalRuns();
         numberLength();
         tokenAtItsFirstByte();
@@ -340,6 +341,27 @@ public final class MarketEdgesTest {
         refused("sets 5;", 1, 0);
         refused("se 5;", 1, 0);
         refused("terms 0 1;", 1, 0);
+    }
+
+    // "All items without quotes are numbers", and the others stand as they are: one letter makes another word.
+    private static void everyLetterOfAWord() {
+        String[] texts = {"trader;", "scale 0 0 1 20;", "mass 5;", "set 5;", "term 0 1;", "mass 5 plus 1;",
+            "mass 5 minus 1;", "set 5 maybe;"};
+        String[] words = {"trader", "scale", "mass", "set", "term", "plus", "minus", "maybe"};
+        for (int i = 0; i < words.length; i++) {
+            String text = "trader;" + texts[i];
+            int at = text.lastIndexOf(words[i]);
+            taken(text);
+            for (int letter = 0; letter < words[i].length(); letter++) {
+                for (char other = 'a'; other <= 'z'; other++) {
+                    if (other != words[i].charAt(letter)) {
+                        StringBuilder changed = new StringBuilder(text);
+                        changed.setCharAt(at + letter, other);
+                        refused(changed.toString(), 1, at);
+                    }
+                }
+            }
+        }
     }
 
     // ".. a maximal run ..": two words or two numbers need a blank between them, a word and a number need none.

@@ -397,6 +397,8 @@ public final class WeightsEdgesTest {
         best("three light ones", x, 3, 1, 1, 2);
         everyPair();
         everyDepth();
+        everySuspectOnAPan();
+        everyNumberOfSuspects();
     }
 
     /** Each pair of one heavy and one light suspect among five weights, against a trial of all pans. */
@@ -419,19 +421,81 @@ public final class WeightsEdgesTest {
             for (int results = 0; results < 27; results++) {
                 ScaleInspection x = Text.market("set " + count + " maybe;");
                 for (int step = results, i = 0; i < 3; i++, step /= 3) {
-                    int heavy = x.heavySuspects(0);
-                    int light = x.lightSuspects(0);
-                    int genuine = x.canBeGenuine(0);
-                    int[] pans = Weighings.best(count, heavy, light, genuine);
-                    best(count + " weights, heavy " + heavy + ", light " + light, x, 0,
-                            Weighings.needed(count, heavy, light, genuine), pans == null ? -2 : pans[0],
-                            pans == null ? -2 : pans[1]);
-                    if (pans != null) {
-                        x.weigh(0, pans[0], pans[1], step % 3);
+                    trial(x, count);
+                    if (x.finding(0) == -2) {
+                        x.weigh(0, x.bestLeft(0), x.bestRight(0), step % 3);
                     }
                 }
             }
         }
+    }
+
+    /** What the set answers, against a trial of all pans. */
+    private static void trial(ScaleInspection x, int count) {
+        int heavy = x.heavySuspects(0);
+        int light = x.lightSuspects(0);
+        int genuine = x.canBeGenuine(0);
+        int needed = Weighings.needed(count, heavy, light, genuine);
+        int[] pans = Weighings.best(count, heavy, light, genuine);
+        best(count + " weights, heavy " + heavy + ", light " + light + ", genuine " + genuine, x, 0,
+                needed == Weighings.NEVER ? -2 : needed, pans == null ? -2 : pans[0], pans == null ? -2 : pans[1]);
+    }
+
+    /** After half of the weights against the other half no weight is known as genuine. */
+    private static void everySuspectOnAPan() {
+        for (int count = 2; count <= 12; count += 2) {
+            for (int result = 1; result <= 2; result++) {
+                int half = (1 << count / 2) - 1;
+                ScaleInspection x = Text.market("set " + count + ";");
+                CHECK.due("37: " + count + " suspects", count, x.weigh(0, half, half << count / 2, result));
+                trial(x, count);
+            }
+        }
+    }
+
+    /** All numbers of heavy and of light suspects that few weighings lead to, at the low and at the high places. */
+    private static void everyNumberOfSuspects() {
+        for (int count = 2; count <= 12; count++) {
+            for (int balanced = 0; 2 * balanced <= count; balanced++) {
+                for (int high = 0; high < 2; high++) {
+                    int cleared = (1 << 2 * balanced) - 1;
+                    int places = high == 1 ? cleared << count - 2 * balanced : cleared;
+                    suspectsAmong(count, places, balanced);
+                }
+            }
+        }
+    }
+
+    /** Clears these places by a balance, then leaves each number of heavy and of light ones among the others. */
+    private static void suspectsAmong(int count, int cleared, int balanced) {
+        int others = (1 << count) - 1 & ~cleared;
+        int suspects = Integer.bitCount(others);
+        for (int heavy = 0; heavy <= suspects; heavy++) {
+            int light = Math.min(suspects - heavy, heavy + 2 * balanced);
+            for (; light >= 0 && heavy <= light + 2 * balanced; light--) {
+                ScaleInspection x = Text.market("set " + count + " maybe;");
+                int half = lowest(cleared, balanced);
+                if (balanced > 0) {
+                    x.weigh(0, half, cleared & ~half, 0);
+                }
+                if (heavy + light > 0) {
+                    int left = lowest(others, heavy);
+                    int right = lowest(others & ~left, light);
+                    left |= lowest(cleared, Math.max(0, light - heavy));
+                    right |= lowest(cleared, Math.max(0, heavy - light));
+                    CHECK.due("37: " + heavy + " and " + light, heavy + light, x.weigh(0, left, right, 1));
+                }
+                trial(x, count);
+            }
+        }
+    }
+
+    private static int lowest(int set, int size) {
+        int rest = set;
+        for (int i = 0; i < size; i++) {
+            rest &= rest - 1;
+        }
+        return set & ~rest;
     }
 
     // 47: "count: number of weights, 2 to 12", "INVALID if count is out of range."
