@@ -16,6 +16,7 @@ public final class ChangesEdgesTest {
         questionsAreNoChanges();
         undoIsNoChange();
         undoBeyondAnEarlierUndo();
+        everyCallCounts();
         undoneChangesOfEachKind();
         noSuchSlot();
         emptySlot();
@@ -209,6 +210,20 @@ public final class ChangesEdgesTest {
         }
         CHECK.due("38: the first three and two more", 5, x.weighingCount(0));
         CHECK.due("40: of two kinds", 4080, x.heavySuspects(0));
+    }
+
+    // "An object is used for at most 512 calls after it has been made": each of them answers, the last one too.
+    private static void everyCallCounts() {
+        ScaleInspection x = new ScaleInspection();
+        int[] w = Text.words("set 12 maybe;", 0);
+        CHECK.due("2: the first call", 20, x.append(w[0], w[1], w[2], w[3], w[4]));
+        CHECK.due("3: the second call", 0, x.parse(13));
+        CHECK.due("37: the third call", 21, x.weigh(0, 1, 2, 0));
+        for (int call = 4; call < 512; call += 2) {
+            CHECK.due("37: call " + call, 2, x.weigh(0, 4, 8, 1));
+            CHECK.due("48: call " + (call + 1), true, x.undo());
+        }
+        CHECK.due("39: call 512", 21, x.hypothesisCount(0));
     }
 
     // 48: what each undone change leaves is what stood before it.

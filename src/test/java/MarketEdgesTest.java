@@ -30,6 +30,7 @@ public final class MarketEdgesTest {
         maximalRuns();
         numberLength();
         tokenAtItsFirstByte();
+        numberedInTheirOrder();
         limitOfEachKind();
         limitsTogether();
         termHasNoLimit();
@@ -408,6 +409,27 @@ public final class MarketEdgesTest {
         refused("trader;scale 0  \n  3 1 20;", 3, 19);
         refused("term 0 1;term\n 0 1;", 2, 15);
         refused("set 5;".repeat(4) + "\n\nset 5;", 4, 26);
+    }
+
+    // "Traders, scales, masses and sets are numbered from 0, each kind in the order of its statements."
+    private static void numberedInTheirOrder() {
+        ScaleInspection x = taken("set 7;mass 30;trader;set 3 maybe;scale 0 2 3 60;mass 10 plus 1;term 2 1;trader;"
+                + "scale 1 0 2 41;mass 20 minus 1;set 12;scale 0 1 1 22;trader;scale 2 0 5 100;set 2 maybe;mass 9;");
+        int[] traders = {0, 1, 0, 2};
+        int[] capacities = {60, 41, 22, 100};
+        int[] tolerances = {2, 1, 1, 3};
+        int[] values = {30, 11, 19, 9};
+        int[] counts = {7, 3, 12, 2};
+        for (int number = 0; number < 4; number++) {
+            CHECK.due("9: trader(" + number + ")", traders[number], x.trader(number));
+            CHECK.due("10: capacity(" + number + ")", capacities[number], x.capacity(number));
+            CHECK.due("11: baseTolerance(" + number + ", 0)", tolerances[number], x.baseTolerance(number, 0));
+            CHECK.due("12: massValue(" + number + ")", values[number], x.massValue(number));
+            CHECK.due("36: weightCount(" + number + ")", counts[number], x.weightCount(number));
+            CHECK.due("42: canBeGenuine(" + number + ")", number % 2, x.canBeGenuine(number));
+        }
+        CHECK.due("5: three traders", 3, x.traderCount());
+        CHECK.due("13: masses 1 and 3", 10, x.fewestMasses(20));
     }
 
     // "There are at most 8 traders, 24 scales, 10 masses and 4 sets." Code 4: "the word .. of a statement beyond a

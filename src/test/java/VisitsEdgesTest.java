@@ -14,6 +14,7 @@ public final class VisitsEdgesTest {
         dayOfEarlierVisits();
         invalidBeforeOpen();
         openBeforeFull();
+        openVisitOfEachScale();
         thirtiethVisit();
         noSuchVisit();
         numberOfVisits();
@@ -35,6 +36,7 @@ public final class VisitsEdgesTest {
         failingTest();
         differingErrors();
         firstVerdictThatApplies();
+        passedOrFailed();
         verdictOfClosedVisit();
         adjustmentRounds();
         adjustmentThrows();
@@ -133,6 +135,24 @@ public final class VisitsEdgesTest {
         }
         unchanged("16: thirty, and no such scale", -1, Scene::thirtyVisits, x -> x.startVisit(2, 50));
         unchanged("16: thirty, and no such scale", -1, Scene::thirtyVisits, x -> x.startVisit(-1, 50));
+    }
+
+    // "A visit is open until it is closed; a scale has at most one open visit.": all scales may have one at a time.
+    private static void openVisitOfEachScale() {
+        ScaleInspection x = Text.market("trader;" + "scale 0 0 1 20;".repeat(24));
+        for (int scale = 0; scale < 24; scale++) {
+            CHECK.due("16: scale " + scale, scale, x.startVisit(scale, 5));
+        }
+        for (int scale = 0; scale < 24; scale++) {
+            CHECK.due("29: open, scale " + scale, 0, x.isClosed(scale));
+            CHECK.due("16: a second one, scale " + scale, -2, x.startVisit(scale, 5));
+        }
+        CHECK.due("28: the one of scale 11", 1, x.closeVisit(11));
+        CHECK.due("16: the neighbour's is open", -2, x.startVisit(10, 5));
+        CHECK.due("16: the neighbour's is open", -2, x.startVisit(12, 5));
+        CHECK.due("16: scale 11 has none", 24, x.startVisit(11, 5));
+        CHECK.due("16: scale 11 has one again", -2, x.startVisit(11, 5));
+        CHECK.due("29: the earlier one stays closed", 1, x.isClosed(11));
     }
 
     // "There are at most 30 visits, numbered from 0."
@@ -561,6 +581,21 @@ public final class VisitsEdgesTest {
         verdicts("3 before 5", 3, 0, -3, 0, 3, 1, 500);
         verdicts("4 before 5", 4, 0, 0, 1, 506, 1, 500);
         verdicts("4 before 5, of different sets", 4, 0, 6, 1, 503, 1, 497);
+    }
+
+    // "the visit is passed if the verdict is 0, otherwise failed": no other verdict counts as passed.
+    private static void passedOrFailed() {
+        int[][] tests = {{0, 0, 1, 500, 1, 500}, {1, 500}, {0, 0}, {0, 0, 1, 500}, {0, 0, 1, 506, 1, 506},
+            {0, 0, 1, 503, 1, 497}};
+        for (int verdict = 5; verdict >= 0; verdict--) {
+            ScaleInspection x = visited(tests[verdict]);
+            CHECK.due("28: verdict " + verdict, verdict, x.closeVisit(0));
+            CHECK.due("16: another visit", 1, x.startVisit(0, 0));
+            CHECK.due("19: in service after verdict " + verdict, verdict == 0 ? 1 : 0, x.isInService(1));
+            CHECK.due("30: state after verdict " + verdict, verdict == 0 ? 1 : 3, x.sealState(0, 0));
+            CHECK.due("31: expiry after verdict " + verdict, verdict == 0 ? 720 : -2, x.expiryDay(0, 0));
+            CHECK.due("33: risk after verdict " + verdict, verdict == 0 ? 1 : 7, x.risk(0, 0));
+        }
     }
 
     // 25: "Returns the verdict of a visit, open or closed." "Closing a visit fixes its verdict"
